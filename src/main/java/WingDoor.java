@@ -331,7 +331,8 @@ public final class WingDoor {
 
     /** Who of the others is to be LET AHEAD, or else to GIVE UP, so that g is THROUGH soonest; NONE. */
     private int bestHelper(int g, boolean byLettingAhead) {
-        int best = whenNow(g);
+        trial.copy(state);
+        int best = trial.runUntilThrough(g);
         int who = NONE;
         for (int other = 0; other < state.goers; other++) {
             if (other == g || state.whereOf[other] != WAITS) {
@@ -577,10 +578,12 @@ public final class WingDoor {
             tokenAt = at;
             if (at >= length) {
                 token = END;
-            } else if (isDigit(letters[at])) {
+                return;
+            }
+            int letter = letters[at];
+            if (letter >= '0' && letter <= '9') {
                 readDigits();
             } else {
-                int letter = letters[at];
                 token = letter == 'r' || letter == 'h' || letter == 's' || letter == ';' ? letter : WRONG;
                 at++;
             }
@@ -588,7 +591,7 @@ public final class WingDoor {
 
         private void readDigits() {
             number = 0;
-            while (at < length && isDigit(letters[at])) {
+            while (at < length && letters[at] >= '0' && letters[at] <= '9') {
                 // Past two digits the TOKEN is wrong whatever it amounts to.
                 number = at - tokenAt < 2 ? number * 10 + letters[at] - '0' : number;
                 at++;
@@ -596,10 +599,6 @@ public final class WingDoor {
             int digits = at - tokenAt;
             boolean zeroAhead = digits > 1 && number < 10;
             token = digits > 2 || zeroAhead ? WRONG : NUMBER;
-        }
-
-        private static boolean isDigit(int letter) {
-            return letter >= '0' && letter <= '9';
         }
     }
 
@@ -796,24 +795,19 @@ public final class WingDoor {
         }
 
         private void fill() {
-            fillFrom(STREET);
-            fillFrom(HALL);
-        }
-
-        private void fillFrom(int side) {
-            int place = plan.placeOfSide(side);
-            int left = plan.wide - bulkInRoomAt(place);
-            for (int n = 0; n < goers; n++) {
+            for (int side = STREET; side <= HALL; side++) {
+                int place = plan.placeOfSide(side);
+                int left = plan.wide - bulkInRoomAt(place);
                 int first = firstOn(side);
-                if (first == NOBODY) {
-                    return;
+                for (int n = 0; n < goers && first != NOBODY; n++) {
+                    left -= plan.bulkOf(sortOf[first]);
+                    if (left < 0) {
+                        break;
+                    }
+                    whereOf[first] = IN;
+                    placeOf[first] = place;
+                    first = firstOn(side);
                 }
-                left -= plan.bulkOf(sortOf[first]);
-                if (left < 0) {
-                    return;
-                }
-                whereOf[first] = IN;
-                placeOf[first] = place;
             }
         }
 

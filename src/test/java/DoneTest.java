@@ -60,6 +60,12 @@ public final class DoneTest {
         }
         Script.due("10 steps", "now(0)", x.now(0), 500);
         Script.due("10 steps", "now(7)", x.now(7), 10);
+        // What lies behind the 512th call is free; this is what the program makes of the 999th STEP.
+        for (int i = 501; i <= 999; i++) {
+            x.steps();
+        }
+        Script.due("10 steps", "steps() behind 999", x.steps(), WingDoor.STATE);
+        Script.due("10 steps", "now(0) behind 999", x.now(0), 999);
     }
 
     private static void leaves() {
