@@ -1,3 +1,6 @@
+import java.util.ArrayList;
+import java.util.List;
+
 /** Runs of calls told as text, each call with the answer that is due. */
 final class Script {
     private static int wrong;
@@ -10,19 +13,40 @@ final class Script {
      * Runs the calls on a new object: "name numbers = answer", one a line or several with | between;
      * "tell TEXT = answer" types the text and asks door(), "types TEXT = answer" types it alone.
      */
-    static void run(String title, String block) {
+    static WingDoor run(String title, String block) {
         WingDoor x = new WingDoor();
+        for (String told : calls(block)) {
+            run(title, x, told);
+        }
+        return x;
+    }
+
+    /** One call with its answer, on an object that is there already. */
+    static void run(String title, WingDoor x, String told) {
+        int cut = told.lastIndexOf(" = ");
+        if (cut < 0) {
+            throw new IllegalArgumentException("no answer is told: " + told);
+        }
+        due(title, told.substring(0, cut), ask(x, told.substring(0, cut)), answer(told.substring(cut + 3)));
+    }
+
+    static List<String> calls(String block) {
+        List<String> all = new ArrayList<>();
         for (String line : block.split("[\n|]")) {
             String told = line.strip();
-            if (told.isEmpty() || told.startsWith("#")) {
-                continue;
+            if (!told.isEmpty() && !told.startsWith("#")) {
+                all.add(told);
             }
-            int cut = told.lastIndexOf(" = ");
-            if (cut < 0) {
-                throw new IllegalArgumentException("no answer is told: " + told);
-            }
-            due(title, told.substring(0, cut), ask(x, told.substring(0, cut)), answer(told.substring(cut + 3)));
         }
+        return all;
+    }
+
+    /** A new object to which a text is told that has as many ITEMS, or its FAULT there (as door() answers it). */
+    static WingDoor told(String title, String text, int answer) {
+        WingDoor x = new WingDoor();
+        typeAll(x, text);
+        due(title, "door() of '" + text + "'", x.door(), answer);
+        return x;
     }
 
     static void due(String title, String call, long got, long want) {
@@ -60,7 +84,7 @@ final class Script {
         return last;
     }
 
-    private static long ask(WingDoor x, String call) {
+    static long ask(WingDoor x, String call) {
         String[] words = call.split(" ", 2);
         if (words[0].equals("tell") || words[0].equals("types")) {
             int last = typeAll(x, words.length > 1 ? words[1] : "");
