@@ -14,6 +14,7 @@ public final class DoorBoundsTest {
         blanksBetweenTokens();
         roomsFirstOfAll();
         hardOnce();
+        howManyItems();
         tokensAreNoOtherLetters();
         numbersOfOneOrTwoDigits();
         endsTooEarly();
@@ -234,6 +235,22 @@ public final class DoorBoundsTest {
         Script.typeAll(x, "h5;");
         Script.due(ONCE, "door() of h5;", x.door(), 1);
         Script.due(ONCE, "HARD told anew", x.count(2), 5);
+    }
+
+    private static final String ITEMS = "THE TEXT tells all anew, and is empty then: how many ITEMS";
+
+    private static void howManyItems() {
+        String text = "r6 5;h20;s5 9;s5 9;s5 9;s5 9;s5 9;s5 9;";
+        WingDoor x = Script.told(ITEMS, text, 8);
+        Script.due(ITEMS, "count(3)", x.count(3), 6);
+        Script.due(ITEMS, "count(6)", x.count(6), 0);
+        Script.due(ITEMS, "door() again, of nothing", x.door(), 0);
+        Script.due(ITEMS, "count(3), then", x.count(3), 0);
+        Script.told(ITEMS, text + ";", -10 - 39);
+        Script.told(ITEMS, text + "h", -10 - 39);
+        Script.told(ITEMS, text + "r", -10 - 39);
+        Script.told(ITEMS, text + "s", -10 - 39);
+        Script.told(ITEMS, text + "0", -10 - 39);
     }
 
     private static final String TOKENS = "TOKENS are the letters r, h, s, NUMBERS and ; .. of any other letter .. that TOKEN's";
