@@ -7,8 +7,10 @@ import java.nio.file.Files;
 import java.nio.file.Path;
 import java.util.Set;
 import java.util.TreeSet;
+import java.util.regex.Matcher;
+import java.util.regex.Pattern;
 
-/** The public face is the document's and no more; the source keeps to LANGUAGE.md's plainest rules. */
+/** The public face is the document's and no more. */
 public final class FaceTest {
     private static final Set<String> FACE = Set.of(
         "int type(int)", "int clear()", "int door()", "int sort(int,int)", "int goer(int,int)", "int room(int,int)",
@@ -21,7 +23,9 @@ public final class FaceTest {
         constants();
         methods();
         nestedClasses();
-        source(Files.readString(Path.of("src/main/java/WingDoor.java")));
+        String source = Files.readString(Path.of("src/main/java/WingDoor.java"));
+        parts(source);
+        signs(source);
         Script.end();
     }
 
@@ -79,25 +83,32 @@ public final class FaceTest {
     }
 
     private static void nestedClasses() {
-        Class<?>[] inside = WingDoor.class.getDeclaredClasses();
-        holds("some twelve classes", inside.length + 1 <= 12);
-        for (Class<?> each : inside) {
+        for (Class<?> each : WingDoor.class.getDeclaredClasses()) {
             int bits = each.getModifiers();
             holds(each.getName() + " is static", Modifier.isStatic(bits));
             holds(each.getName() + " is not open", !Modifier.isPublic(bits) && !Modifier.isProtected(bits));
         }
     }
 
-    private static void source(String source) {
-        String code = source.replaceAll("(?s)/\\*.*?\\*/", " ").replaceAll("//[^\n]*", " ");
-        for (String word : new String[] {"throw", "throws", "try", "catch", "finally", "synchronized", "assert",
-            "protected", "package", "double", "float"}) {
-            holds("no '" + word + "'", !code.matches("(?s).*\\b" + word + "\\b.*"));
+    /** "Ahead of the calls .. the interface says", in the order of the document. */
+    private static final String PARTS = """
+        ---- the door: type clear door sort goer room now
+        ---- what is done: comes steps leaves lets undo
+        ---- what is best: spare ahead odds
+        ---- which sort: sees forget which look
+        ---- kinds, images: rate keep back count trace""";
+
+    private static void parts(String source) {
+        StringBuilder parts = new StringBuilder();
+        Matcher m = Pattern.compile("    // (----.*)|    public (?:int|long) (\\w+)\\(.*").matcher(source);
+        while (m.find()) {
+            boolean helpers = "---- helpers".equals(m.group(1));
+            parts.append(helpers ? "" : m.group(1) != null ? "\n" + m.group(1) + ":" : " " + m.group(2));
         }
-        for (String sign : new String[] {"->", "::", "@", "Exact", "static {"}) {
-            holds("no '" + sign + "'", !code.contains(sign));
-        }
-        holds("no import but Arrays", code.replace("import java.util.Arrays;", "").indexOf("import ") < 0);
+        holds("the parts are" + parts, parts.toString().strip().equals(PARTS));
+    }
+
+    private static void signs(String source) {
         holds("signs 1 to 127 alone", source.chars().allMatch(c -> c > 0 && c < 128));
     }
 }

@@ -4,7 +4,8 @@ import java.util.Random;
 /** Runs of chance, always the same ones, in which the program must answer as the model does. */
 public final class ModelTest {
     private static final int RUNS = 600;
-    private static final int CALLS = 500;
+    /** As many as an object is used for. */
+    private static final int CALLS = 512;
     private static final String[] ASKS = {"sort", "goer", "room", "now", "spare", "ahead", "odds", "which", "look",
         "rate", "count", "trace"};
     private static final String[] DOES = {"comes", "comes", "steps", "steps", "leaves", "lets", "undo", "sees",

@@ -65,7 +65,7 @@ final class Script {
         }
     }
 
-    private static long answer(String told) {
+    static long answer(String told) {
         switch (told.strip()) {
             case "BAD": return WingDoor.BAD;
             case "STATE": return WingDoor.STATE;
